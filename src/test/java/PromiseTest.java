@@ -12,6 +12,7 @@ public final class PromiseTest {
         faultOfNumbers();
         faultOfPersons();
         lay();
+        layAgain();
         habit();
         kind();
         leave();
@@ -22,7 +23,9 @@ public final class PromiseTest {
         alter();
         undo();
         undoAfterManyDays();
+        undoEachOnItsOwn();
         where();
+        draws();
         filedAndFirst();
         often();
         together();
@@ -36,6 +39,7 @@ public final class PromiseTest {
         laws();
         ahead();
         keepAndBack();
+        backToOtherDays();
         count();
         checks.end("PromiseTest");
     }
@@ -150,6 +154,11 @@ public final class PromiseTest {
         fault("f21;", 0);
         fault("z99;z00;", NONE);
         fault("z100;", 0);
+        fault("z:;", 0);
+        fault("z/;", 0);
+        fault("z;;", 0);
+        fault("z1:;", 0);
+        fault("n 1;", 0);
         fault("p0;h0,3,5,5,10;", NONE);
         fault("p0;h00,03,05,05,10;", NONE);
         fault("p0;h0,4,0,0,0;", 3);
@@ -197,6 +206,43 @@ public final class PromiseTest {
         due("5 ban without", z.count(2), 3);
         due("5 crowd without", z.count(3), 4);
         due("5 fine without", z.count(4), 5);
+    }
+
+    private static void relay(CoincidenceBureau x, String text) {
+        x.wipe();
+        for (int k = 0; k < text.length(); k++) {
+            x.write(text.charAt(k));
+        }
+        checks.holds("laid anew " + text, x.lay() > 0);
+    }
+
+    private static void layAgain() {
+        CoincidenceBureau x = laid(gathering("n9;c5;f7;z9;l0,1;", 0, 0, 0));
+        due("5 fault reads all anew", x.fault(), NONE);
+        due("5 fault leaves the town", x.count(0) * 10 + x.leave(0, 1), 31);
+        x.write('p');
+        due("5 nor does a fault change it", x.fault(), 59);
+        x.wipe();
+        x.write('n');
+        x.write('0');
+        x.write(';');
+        due("5 a text that is not laid", x.fault(), NONE);
+        due("5 persons stay", x.count(0), 3);
+        due("5 ban stays", x.count(2), 9);
+        x.pass(4);
+        relay(x, "p3;p0;p0;p0;");
+        relay(x, "p0;p0;h0,0,1,2,5;h1,0,1,1,0;");
+        due("5 persons of the last one alone", x.count(0), 2);
+        due("5 its leaves alone", x.leave(0, 1), 0);
+        due("5 its ban", x.count(2), 3);
+        due("5 its crowd", x.count(3), 4);
+        due("5 its fine", x.count(4), 5);
+        due("5 no first", x.first(), NONE);
+        due("5 nobody's old habit", x.habit(0, 1, 0), NONE);
+        CoincidenceBureau y = laid("p0;p0;h0,0,1,2,5;h1,0,1,1,0;");
+        for (int d = 0; d <= 30; d++) {
+            due("5 its seed", x.where(0, 0, d), y.where(0, 0, d));
+        }
     }
 
     private static void habit() {
@@ -256,6 +302,11 @@ public final class PromiseTest {
         due("9 last day", x.count(1), 999);
         due("9 no more", x.pass(1), NO);
         due("9 all", x.filed(0), 2997);
+        due("9 the days behind the last one can be seen", x.where(0, 0, 30), 0);
+        due("9 and laws for them", x.laws(30, 1), 90);
+        due("12 the last day can be undone", x.undo(), 7);
+        due("12 the one ahead of the last", x.count(1), 998);
+        due("9 it goes by again", x.pass(1), 3);
     }
 
     private static void meetingAndCrowds() {
@@ -381,6 +432,37 @@ public final class PromiseTest {
         due("12 the day", x.count(1), 30);
     }
 
+    private static void undoEachOnItsOwn() {
+        CoincidenceBureau x = new CoincidenceBureau();
+        x.permit(2, 3);
+        x.alter(0, 0, 1);
+        x.alter(3, 2, 8);
+        x.permit(1, 3);
+        x.permit(0, 3);
+        x.pass(1);
+        x.alter(0, 0, 9);
+        x.alter(2, 2, 4);
+        x.permit(0, 2);
+        x.undo();
+        due("12 leave of 0, 2", x.leave(0, 2), 0);
+        x.undo();
+        due("12 habit of 2", x.habit(2, 2, 2), 1);
+        x.undo();
+        due("12 habit of 0, once", x.habit(0, 0, 2), 1);
+        x.undo();
+        due("12 day", x.count(1), 0);
+        x.undo();
+        due("12 leave of 0, 3 is back", x.leave(0, 3), 1);
+        due("12 leave of 1, 3 is still there", x.leave(1, 3), 1);
+        x.undo();
+        due("12 leave of 1, 3", x.leave(1, 3), 0);
+        x.undo();
+        due("12 habit of 3", x.habit(3, 2, 2), 2);
+        due("12 habit of 0, twice", x.undo(), 0);
+        due("12 as at first", x.habit(0, 0, 2), 5);
+        due("12 the oldest stays", x.leave(2, 3), 1);
+    }
+
     private static void where() {
         CoincidenceBureau x = laid("p0;p0;h0,0,1,2,0;h0,1,1,2,10;h1,2,4,4,5;h1,0,1,2,1;z1;");
         due("13 surely at B", x.where(0, 0, 0), 2);
@@ -402,6 +484,23 @@ public final class PromiseTest {
             due("13 bad i", x.where(wrong, 0, 0), BAD);
             due("13 bad h", x.where(0, wrong, 0), BAD);
             due("13 bad d", x.where(0, 0, wrong), BAD);
+        }
+    }
+
+    /** The draw as the document tells it, from where C lets a person change places. */
+    private static void draws() {
+        CoincidenceBureau x = laid("p0;p0;p0;p0;p0;h4,3,0,1,5;h2,1,0,1,5;h0,0,0,1,5;z99;");
+        int[][] whoWhen = {{4, 3}, {2, 1}, {0, 0}};
+        x.pass(20);
+        for (int[] w : whoWhen) {
+            for (int d = 0; d <= 30; d += 3) {
+                long n = 7919L * 99 + 6151L * (20 + d) + 3571L * w[0] + 1013L * w[1] + 1;
+                long draw = n * n % 65521 / 8 % 10;
+                for (int c = 0; c <= 10; c++) {
+                    x.alter(w[0], w[1], c);
+                    due("13 draw", x.where(w[0], w[1], d), draw < c ? 0 : 1);
+                }
+            }
         }
     }
 
@@ -431,6 +530,11 @@ public final class PromiseTest {
         due("16 often", x.often(0, 2), 7);
         due("16 the other way", x.often(2, 0), 7);
         due("16 never", x.often(0, 3), 0);
+        CoincidenceBureau y = laid("p0;p0;p0;p0;p0;h4,0,0,0,0;h3,0,0,0,0;h4,1,1,1,1;h0,1,1,1,1;");
+        y.pass(2);
+        due("16 the last two", y.often(3, 4), 2);
+        due("16 first and last", y.often(4, 0), 2);
+        due("16 not these", y.often(0, 3), 0);
         due("16 alike", x.often(0, 0), BAD);
         for (int wrong : WRONG) {
             due("16 bad i", x.often(wrong, 0), BAD);
@@ -511,6 +615,8 @@ public final class PromiseTest {
         due("20 person ahead of hour", laid("p0;p0;h0,3,1,2,5;h1,3,1,1,5;h1,0,1,2,5;h0,0,1,1,5;").least(1, 0, 8, 0), 306);
         due("20 least ahead of person", y.least(1, 2, 10, 0), 1200);
         due("20 least ahead of person by", y.least(2, 1, 10, 1), 2);
+        due("20 up to ten", laid("p0;p0;h0,2,1,2,5;h1,2,1,1,5;").least(0, 1, 10, 0), 210);
+        due("20 by five", laid("p0;p0;h0,2,1,2,5;h1,2,1,1,5;").least(0, 1, 10, 1), 5);
         due("20 habit stays", y.habit(1, 2, 2), 2);
         due("20 no change is noted", y.count(6), 0);
         due("20 alike", x.least(1, 1, 5, 0), BAD);
@@ -619,6 +725,15 @@ public final class PromiseTest {
         due("27 five days ahead", y.laws(1, 5), 1);
         due("27 least by those ahead", y.laws(1, -1), 5);
         due("27 least within", y.laws(2, -1), 1);
+        CoincidenceBureau z = laid("p0;p0;h0,0,0,1,10;h1,0,0,0,10;n0;");
+        z.pass(1);
+        z.alter(0, 0, 0);
+        z.pass(8);
+        z.alter(0, 0, 10);
+        due("27 nine days ahead", z.laws(1, 9), 1);
+        due("27 nine are the least", z.laws(1, -1), 9);
+        due("27 eight are too few", z.laws(1, 8), 0);
+        foreseen();
         due("27 strangers need no ban", laid(gathering("", 0, 3)).laws(3, -1), 0);
         due("27 strangers", laid(gathering("", 0, 3)).laws(3, 0), 3);
         due("27 nothing changes", x.count(1) + x.count(2), 1);
@@ -630,6 +745,17 @@ public final class PromiseTest {
             due("27 bad n", x.laws(wrong, 0), BAD);
         }
         due("27 bad d", x.laws(1, Integer.MAX_VALUE), BAD);
+    }
+
+    /** What laws foretells by the ban in force is what comes. */
+    private static void foreseen() {
+        CoincidenceBureau x = new CoincidenceBureau();
+        for (int n = 1; n <= 12; n++) {
+            int foretold = x.laws(n, 3);
+            int before = x.filed(1);
+            x.pass(n);
+            due("27 foretold", foretold, x.filed(1) - before);
+        }
     }
 
     private static void ahead() {
@@ -681,6 +807,31 @@ public final class PromiseTest {
         x.permit(0, 1);
         x.pass(1);
         due("30 the days ahead count", x.filed(1), 2);
+    }
+
+    private static void backToOtherDays() {
+        CoincidenceBureau x = laid("p0;p0;h0,0,0,1,0;h1,0,1,1,0;n2;");
+        x.pass(3);
+        due("29 met thrice", x.filed(1), 2);
+        x.keep();
+        x.undo();
+        x.undo();
+        x.undo();
+        x.alter(0, 0, 10);
+        x.pass(20);
+        due("29 other days", x.filed(0), 0);
+        due("30 back", x.back(), 0);
+        due("30 day of those", x.count(1), 3);
+        due("30 filed then", x.filed(0), 3);
+        due("30 unlawful then", x.filed(1), 2);
+        due("30 first then", x.first(), 1);
+        due("30 the days as they were then", x.laws(1, 1), 1);
+        x.alter(0, 0, 10);
+        x.pass(2);
+        x.undo();
+        x.undo();
+        x.undo();
+        due("30 undone again", x.filed(1), 2);
     }
 
     private static void count() {
