@@ -16,6 +16,7 @@ public final class CoincidenceBureau {
     private static final int LONGEST_BAN = 9;
     private static final int MOST_CHANGES = 8;
     private static final int MOST_STAMPS = 6;
+    private static final int MOST_KEPT = 2;
     private static final int CLERK = 1;
     private static final int TWIN = 2;
     private static final int STRANGER = 3;
@@ -30,7 +31,8 @@ public final class CoincidenceBureau {
     private final Files files;
     private final Changes changes;
     private final Stamps stamps;
-    private final Kept[] kept;
+    private final Kept keptFirst;
+    private final Kept keptSecond;
     private int keptSize;
     private final Lookout lookout;
 
@@ -41,7 +43,8 @@ public final class CoincidenceBureau {
         files = new Files();
         changes = new Changes();
         stamps = new Stamps();
-        kept = new Kept[] {new Kept(), new Kept()};
+        keptFirst = new Kept();
+        keptSecond = new Kept();
         keptSize = 0;
         lookout = new Lookout();
         for (int k = 0; k < FIRST_TOWN.length(); k++) {
@@ -340,20 +343,20 @@ public final class CoincidenceBureau {
     // ---- kept
 
     public int keep() {
-        if (keptSize < 0 || keptSize >= kept.length) {
+        if (keptSize == MOST_KEPT) {
             return FULL;
         }
-        kept[keptSize].take(town, files);
+        keptBehind(keptSize).take(town, files);
         keptSize++;
         return keptSize;
     }
 
     public int back() {
-        if (keptSize < 1 || keptSize > kept.length) {
+        if (keptSize == 0) {
             return NO;
         }
         keptSize--;
-        kept[keptSize].giveBack(town, files);
+        keptBehind(keptSize).giveBack(town, files);
         changes.size = 0;
         return keptSize;
     }
@@ -407,6 +410,10 @@ public final class CoincidenceBureau {
 
     private boolean areTwo(int i, int j) {
         return isPerson(i) && isPerson(j) && i != j;
+    }
+
+    private Kept keptBehind(int others) {
+        return others == 0 ? keptFirst : keptSecond;
     }
 
     // ---- reckoning
