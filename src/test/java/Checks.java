@@ -2,6 +2,25 @@
 final class Checks {
     private int right;
     private int wrong;
+    private int sentences;
+    private String words = "";
+    private int checkedAhead;
+
+    /** From here on it is this sentence of the document that is tested; one without any check is wrong. */
+    void sentence(String next) {
+        closeSentence();
+        sentences++;
+        words = next;
+        checkedAhead = right + wrong;
+    }
+
+    private void closeSentence() {
+        if (!words.isEmpty() && right + wrong == checkedAhead) {
+            wrong++;
+            System.out.println("[" + words + "] is not tested");
+        }
+        words = "";
+    }
 
     void due(String what, long got, long want) {
         if (got == want) {
@@ -9,7 +28,8 @@ final class Checks {
             return;
         }
         wrong++;
-        System.out.println(what + " answered " + got + ", due is " + want);
+        String where = words.isEmpty() ? "" : "[" + words + "] ";
+        System.out.println(where + what + " answered " + got + ", due is " + want);
     }
 
     void holds(String what, boolean so) {
@@ -21,7 +41,9 @@ final class Checks {
     }
 
     void end(String name) {
-        System.out.println(name + ": " + right + " passed, " + wrong + " failed");
+        closeSentence();
+        String told = sentences == 0 ? "" : " (" + sentences + " sentences)";
+        System.out.println(name + ": " + right + " passed, " + wrong + " failed" + told);
         if (wrong != 0 || right == 0) {
             System.exit(1);
         }

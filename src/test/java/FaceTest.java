@@ -46,7 +46,7 @@ public final class FaceTest {
         }
         checks.holds("the face: " + open, String.join(" ", open).equals(FACE));
         for (String name : hidden) {
-            checks.holds(name + " is no public name", !FACE.contains(name + "/"));
+            checks.holds(name + " is no public name", !(" " + FACE).contains(" " + name + "/"));
         }
         Constructor<?>[] made = face.getDeclaredConstructors();
         checks.due("constructors", made.length, 1);
@@ -74,6 +74,9 @@ public final class FaceTest {
         for (Class<?> c : inside) {
             checks.holds(c + " is static", Modifier.isStatic(c.getModifiers()));
             checks.holds(c + " is not public", !Modifier.isPublic(c.getModifiers()));
+            for (Method m : c.getDeclaredMethods()) {
+                checks.holds(c + "." + m.getName() + " is no public name", !(" " + FACE).contains(" " + m.getName() + "/"));
+            }
             for (Field f : c.getDeclaredFields()) {
                 boolean fixed = !Modifier.isStatic(f.getModifiers()) || Modifier.isFinal(f.getModifiers());
                 checks.holds(c + "." + f.getName() + " is no static state", fixed);

@@ -33,6 +33,10 @@ public final class ModelTest {
         CoincidenceBureau x = new CoincidenceBureau();
         Model model = new Model();
         int calls = 0;
+        // some runs begin near the last day, which the others hardly come to
+        for (; run % 40 == 7 && calls < 33; calls++) {
+            checks.due("run " + run + " pass", x.pass(30), model.pass(30));
+        }
         while (calls < CALLS) {
             boolean town = random.nextInt(100) == 0 && calls < CALLS - 210;
             if (town) {

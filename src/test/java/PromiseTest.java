@@ -62,16 +62,8 @@ public final class PromiseTest {
         return x;
     }
 
-    /** Persons of these kinds who are all at place 0 in hour 0. */
     private static String gathering(String rest, int... kinds) {
-        StringBuilder text = new StringBuilder();
-        for (int kind : kinds) {
-            text.append('p').append(kind).append(';');
-        }
-        for (int i = 0; i < kinds.length; i++) {
-            text.append('h').append(i).append(",0,0,0,0;");
-        }
-        return text.append(rest).toString();
+        return Towns.gathering(rest, kinds);
     }
 
     private static void newObject() {
@@ -83,8 +75,7 @@ public final class PromiseTest {
         due("1 no fault", x.fault(), NONE);
         due("1 habit", x.habit(3, 2, 2), 2);
         due("1 filed", x.filed(0), 0);
-        due("1 the town can be laid", laid("p0;p0;p2;p3;h0,0,1,2,5;h0,1,3,3,0;h1,0,1,4,4;h1,1,3,0,7;"
-            + "h2,0,2,1,5;h2,2,5,5,1;h3,0,1,1,9;h3,2,5,0,2;l0,3;n3;c4;f5;z2;").pass(30), x.pass(30));
+        due("1 the town can be laid", laid(Towns.FIRST).pass(30), x.pass(30));
     }
 
     private static void write() {
@@ -493,7 +484,7 @@ public final class PromiseTest {
         int[][] whoWhen = {{4, 3}, {2, 1}, {0, 0}};
         x.pass(20);
         for (int[] w : whoWhen) {
-            for (int d = 0; d <= 30; d += 3) {
+            for (int d = 0; d <= 30; d += 6) {
                 long n = 7919L * 99 + 6151L * (20 + d) + 3571L * w[0] + 1013L * w[1] + 1;
                 long draw = n * n % 65521 / 8 % 10;
                 for (int c = 0; c <= 10; c++) {
