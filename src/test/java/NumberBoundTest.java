@@ -1,17 +1,11 @@
 import java.util.ArrayList;
-import java.util.LinkedHashMap;
 import java.util.List;
 import java.util.Map;
 
 /** Every number of every call: the last ones that are told, and the first ones beyond them, in bureaus of all sorts. */
 public final class NumberBoundTest {
     private static final int BAD = Run.BAD, NO = Run.NO;
-    private static final int[] HOUR = {0, 3};
-    private static final int[] PLACE = {0, 5};
-    /** Its last one is what the town has. */
-    private static final int[] PERSON = {0, -1};
     private static final List<String> CHANGING = List.of("write", "pass", "permit", "alter", "stamp");
-    private static final Map<String, int[][]> CALLS = calls();
     private static final Checks checks = new Checks();
 
     public static void main(String[] args) {
@@ -33,42 +27,11 @@ public final class NumberBoundTest {
         checks.end("NumberBoundTest");
     }
 
-    private static Map<String, int[][]> calls() {
-        Map<String, int[][]> calls = new LinkedHashMap<>();
-        calls.put("write", new int[][] {{32, 126}});
-        calls.put("habit", new int[][] {PERSON, HOUR, {0, 2}});
-        calls.put("kind", new int[][] {PERSON});
-        calls.put("leave", new int[][] {PERSON, PERSON});
-        calls.put("pass", new int[][] {{1, 30}});
-        calls.put("permit", new int[][] {PERSON, PERSON});
-        calls.put("alter", new int[][] {PERSON, HOUR, {0, 10}});
-        calls.put("where", new int[][] {PERSON, HOUR, {0, 30}});
-        calls.put("filed", new int[][] {{0, 2}});
-        calls.put("often", new int[][] {PERSON, PERSON});
-        calls.put("together", new int[][] {PERSON, PERSON, HOUR, {0, 1}});
-        calls.put("meets", new int[][] {PERSON, PERSON, {0, 1}});
-        calls.put("mean", new int[][] {{0, 1}});
-        calls.put("least", new int[][] {PERSON, PERSON, {1, 10}, {0, 1}});
-        calls.put("avoid", new int[][] {PERSON});
-        calls.put("watch", new int[][] {{0, 1}});
-        calls.put("stamp", new int[][] {HOUR, PLACE, {0, 5}});
-        calls.put("ways", new int[][] {HOUR});
-        calls.put("sure", new int[][] {HOUR, PLACE});
-        calls.put("laws", new int[][] {{1, 30}, {-1, 9}});
-        calls.put("ahead", new int[][] {PERSON, PERSON, {1, 30}});
-        calls.put("count", new int[][] {{0, 8}});
-        return calls;
-    }
-
-    private static int last(int[] bounds, int persons) {
-        return bounds == PERSON ? persons - 1 : bounds[1];
-    }
-
     /** Numbers that are told; of two persons the second one is the last. */
     private static int[] told(int[][] bounds, int persons) {
         int[] numbers = new int[bounds.length];
         for (int k = 0; k < numbers.length; k++) {
-            numbers[k] = k == 1 && bounds[k] == PERSON ? persons - 1 : bounds[k][0];
+            numbers[k] = k == 1 && Bounds.isPerson(bounds[k]) ? persons - 1 : bounds[k][0];
         }
         return numbers;
     }
@@ -77,21 +40,20 @@ public final class NumberBoundTest {
     private static int[] with(int[] numbers, int[][] bounds, int place, int number, int persons) {
         int[] others = numbers.clone();
         others[place] = number;
-        boolean two = bounds.length > 1 && bounds[0] == PERSON && bounds[1] == PERSON;
-        if (two && others[0] == others[1]) {
+        if (Bounds.areTwo(bounds) && others[0] == others[1]) {
             others[1 - place] = number == 0 ? persons - 1 : 0;
         }
         return others;
     }
 
     private static void bureau(Run run, int persons) {
-        for (Map.Entry<String, int[][]> entry : CALLS.entrySet()) {
+        for (Map.Entry<String, int[][]> entry : Bounds.CALLS.entrySet()) {
             String name = entry.getKey();
             int[][] bounds = entry.getValue();
             int[] numbers = told(bounds, persons);
             for (int place = 0; place < bounds.length; place++) {
                 int low = bounds[place][0];
-                int high = last(bounds[place], persons);
+                int high = Bounds.last(bounds[place], persons);
                 for (int number : new int[] {low, high}) {
                     int answer = run.answerOfCopy(name, with(numbers, bounds, place, number, persons));
                     checks.holds(name + " with " + number + " as number " + place + " is not BAD", answer != BAD);
@@ -107,9 +69,8 @@ public final class NumberBoundTest {
 
     private static List<String> callsOfTwo() {
         List<String> names = new ArrayList<>();
-        for (Map.Entry<String, int[][]> entry : CALLS.entrySet()) {
-            int[][] bounds = entry.getValue();
-            if (bounds.length > 1 && bounds[0] == PERSON && bounds[1] == PERSON) {
+        for (Map.Entry<String, int[][]> entry : Bounds.CALLS.entrySet()) {
+            if (Bounds.areTwo(entry.getValue())) {
                 names.add(entry.getKey());
             }
         }
@@ -117,7 +78,7 @@ public final class NumberBoundTest {
     }
 
     private static void alike(Run run, String name, int i, int j, int persons) {
-        int[] numbers = told(CALLS.get(name), persons);
+        int[] numbers = told(Bounds.CALLS.get(name), persons);
         numbers[0] = i;
         numbers[1] = j;
         run.refused(BAD, name, numbers);
@@ -145,7 +106,7 @@ public final class NumberBoundTest {
 
     private static void severalWrong() {
         checks.sentence("BAD: every number is none that is told");
-        for (Map.Entry<String, int[][]> entry : CALLS.entrySet()) {
+        for (Map.Entry<String, int[][]> entry : Bounds.CALLS.entrySet()) {
             for (int number : new int[] {Integer.MIN_VALUE, -3, 1000, Integer.MAX_VALUE}) {
                 int[] numbers = new int[entry.getValue().length];
                 java.util.Arrays.fill(numbers, number);
@@ -156,7 +117,7 @@ public final class NumberBoundTest {
 
     private static void questionsChangeNothing() {
         checks.sentence("What asks changes nothing");
-        for (Map.Entry<String, int[][]> entry : CALLS.entrySet()) {
+        for (Map.Entry<String, int[][]> entry : Bounds.CALLS.entrySet()) {
             String name = entry.getKey();
             int[][] bounds = entry.getValue();
             if (CHANGING.contains(name)) {
@@ -166,7 +127,7 @@ public final class NumberBoundTest {
                 .times(1, "permit", 0, 1).times(1, "write", 'p');
             int[] numbers = told(bounds, 4);
             for (int place = 0; place < bounds.length; place++) {
-                for (int number = bounds[place][0]; number <= last(bounds[place], 4); number++) {
+                for (int number = bounds[place][0]; number <= Bounds.last(bounds[place], 4); number++) {
                     run.unchangedBy(name, with(numbers, bounds, place, number, 4));
                 }
             }
