@@ -5,8 +5,10 @@ import java.lang.reflect.Modifier;
 import java.nio.file.Files;
 import java.nio.file.Path;
 import java.util.HashSet;
+import java.util.List;
 import java.util.Set;
 import java.util.TreeSet;
+import java.util.regex.Matcher;
 import java.util.regex.Pattern;
 
 /** The public face is the document's, and the source keeps to those rules of LANGUAGE.md that a text can show. */
@@ -18,13 +20,20 @@ public final class FaceTest {
         "\\bthrow\\b", "\\btry\\b", "\\bcatch\\b", "\\bsynchronized\\b", "\\bassert\\b", "->", "::", "Exact\\b",
         "\\bequals\\b", "\\bhashCode\\b", "\\btoString\\b", "\\bpackage\\b", "\\bprotected\\b", "\\bRandom\\b",
         "\\bSystem\\.(?!arraycopy)", "\\bThread\\b", "static\\s*\\{"};
+    /** Rule 4, as far as the class has use for it. */
+    private static final Set<String> LIBRARY =
+        Set.of("Math.max", "Math.min", "Math.abs", "Integer.bitCount", "Arrays.fill", "System.arraycopy");
+    private static final Pattern METHOD = Pattern.compile("( {4}| {8})(?!for|if|while|switch|else)[^ /*].*\\) \\{");
+    private static final Path SOURCE = Path.of("src/main/java/CoincidenceBureau.java");
     private static final Checks checks = new Checks();
 
     public static void main(String[] args) throws Exception {
         face();
         constants();
         nested();
+        sizes(CoincidenceBureau.class);
         source();
+        methodLengths();
         checks.end("FaceTest");
     }
 
@@ -84,11 +93,53 @@ public final class FaceTest {
         }
     }
 
+    /** Rule 11: seven parameters, some twenty fields beside the constants. */
+    private static void sizes(Class<?> c) {
+        int fields = 0;
+        for (Field f : c.getDeclaredFields()) {
+            fields += Modifier.isStatic(f.getModifiers()) ? 0 : 1;
+        }
+        checks.holds(c + " has at most twenty fields", fields <= 20);
+        for (Method m : c.getDeclaredMethods()) {
+            checks.holds(c + "." + m.getName() + " takes at most seven numbers", m.getParameterCount() <= 7);
+        }
+        for (Class<?> inside : c.getDeclaredClasses()) {
+            sizes(inside);
+        }
+    }
+
+    /** Rule 11: some sixty lines; a method ends where a brace closes as far in as its own line begins. */
+    private static void methodLengths() throws Exception {
+        List<String> lines = Files.readAllLines(SOURCE);
+        int found = 0;
+        for (int k = 0; k < lines.size(); k++) {
+            Matcher m = METHOD.matcher(lines.get(k));
+            if (!m.matches()) {
+                continue;
+            }
+            found++;
+            int end = k + 1;
+            while (end < lines.size() && !lines.get(end).equals(m.group(1) + "}")) {
+                end++;
+            }
+            checks.holds("at most sixty lines: " + m.group().trim(), end < lines.size() && end - k < 60);
+        }
+        checks.holds("methods are found: " + found, found > FACE.split(" ").length);
+    }
+
     private static void source() throws Exception {
-        String code = Files.readString(Path.of("src/main/java/CoincidenceBureau.java"));
+        String code = Files.readString(SOURCE);
         String bare = code.replaceAll("(?s)/\\*.*?\\*/", " ").replaceAll("//[^\n]*", " ").replaceAll("\"[^\"\n]*\"", "\"\"");
         for (String word : FORBIDDEN) {
             checks.holds("without " + word, !Pattern.compile(word).matcher(bare).find());
+        }
+        Matcher library = Pattern.compile("\\b(Math|Integer|Long|Arrays|System|String)\\.\\w+").matcher(bare);
+        while (library.find()) {
+            checks.holds("of the library: " + library.group(), LIBRARY.contains(library.group()));
+        }
+        Matcher imports = Pattern.compile("import [^;]*;").matcher(bare);
+        while (imports.find()) {
+            checks.holds(imports.group(), imports.group().equals("import java.util.Arrays;"));
         }
         checks.holds("signs of the source", code.chars().allMatch(c -> c == '\n' || c >= 32 && c <= 126));
     }
